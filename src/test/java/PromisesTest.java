@@ -260,6 +260,8 @@ public final class PromisesTest {
         "about 0 3 = 0\nabout 1 3 = 0\nabout 2 3 = 0\ndrop 1 = 0\nabout 2 3 = 0\ndrop 0 = 0\nabout 2 3 = 1");
     runs.play("15 a frame of 0 is no blank page", "make 2 = 0\nown 0 0 = true\nabout 0 1 = 1\nabout 0 2 = 1\nabout 0 4 = 0");
     runs.play("15 a row of no pages", "make 0 = 0", Runs.lines(0, 5, i -> "about 0 " + i + " = 0"));
+    runs.play("15 the first page and the last frame", TWO_HUNDRED_FRAMES, "lay 0 1 0 0 1 = 1\nabout 0 0 = 32\nabout 0 1 = 0",
+        "about 0 2 = 31\nabout 0 3 = 31\nabout 0 4 = 527\nabout 6 2 = 8\nabout 6 3 = 8\nabout 6 4 = 1572");
     runs.play("15 numbers wrap around", "make 1 = 0\nwrite 0 0 0 2147483647 = 0\nwrite 0 0 1 1 = 0\nabout 0 4 = -2147483648");
     runs.play("15 wrong", "make 1 = 0", "about 0 5" + ARGUMENT, "about 0 -1" + ARGUMENT, "about 0 2147483647" + ARGUMENT,
         "about 0 -2147483648" + ARGUMENT, "about 1 0" + NONE, "about 1 5" + NONE, "about -1 0" + NONE, "about 40 -1" + NONE);
