@@ -1,17 +1,5 @@
 /** The promises one by one: ordinary inputs, the edges that the document names, and wrong inputs. */
-public final class PromisesTest {
-  private static final String FORTY_ROWS = Runs.lines(0, 40, i -> "make 1 = " + i);
-
-  // Rows 0 .. 6 of 32 pages; the first 200 of these pages have a frame each, the last 24 of row 6 are blank.
-  private static final String TWO_HUNDRED_FRAMES =
-      Runs.lines(0, 7, i -> "make 32 = " + i)
-          + Runs.lines(0, 200, i -> "write " + i / 32 + " " + i % 32 + " 0 " + (i + 1) + " = 0");
-
-  private static final String NONE = " = throws.NoSuchElementException\n";
-  private static final String ARGUMENT = " = throws.IllegalArgumentException\n";
-  private static final String STATE = " = throws.IllegalStateException\n";
-  private static final String ARITHMETIC = " = throws.ArithmeticException\n";
-
+public final class PromisesTest implements Scripts {
   private static final Runs runs = new Runs();
 
   public static void main(String[] args) {
@@ -143,7 +131,8 @@ public final class PromisesTest {
         "holders 0 2 = 1\nholders 0 3 = 1");
     runs.play("7 back in the same row", five, "lay 0 0 0 1 4 = 1",
         Runs.lines(0, 5, p -> "read 0 " + p + " 0 = " + (p < 3 ? p + 2 : 0)), "count 2 = 3\nabout 0 1 = 2");
-    runs.play("7 onto itself", five, "lay 0 0 0 0 5 = 0\ncount 2 = 4", Runs.lines(0, 4, p -> "holders 0 " + p + " = 1"));
+    runs.play("7 onto itself", five, "lay 0 0 0 0 5 = 0\ncount 2 = 4",
+        Runs.lines(0, 4, p -> "holders 0 " + p + " = 1"));
     runs.play("7 of another row", five, "make 3 = 1\nwrite 1 0 0 50 = 0\nwrite 1 2 0 70 = 0\nlay 0 1 1 0 3 = 3",
         "read 0 0 0 = 1\nread 0 1 0 = 50\nread 0 2 0 = 0\nread 0 3 0 = 70\nholders 0 2 = 0\ncommon 0 1 1 0 = true",
         "common 0 3 1 2 = true\ncount 2 = 3\ncount 3 = 2\nwrite 0 1 0 51 = 50\nread 1 0 0 = 50");
@@ -152,9 +141,11 @@ public final class PromisesTest {
     runs.play("7 a frame twice under the pages goes once", "make 4 = 0\nwrite 0 0 0 1 = 0\nlay 0 1 0 0 1 = 0",
         "lay 0 0 0 2 2 = 1\ncount 2 = 0");
     runs.play("7 no pages", five, "make 0 = 1\nlay 0 5 0 0 0 = 0\nlay 0 0 0 5 0 = 0\nlay 1 0 0 5 0 = 0\ncount 2 = 4");
-    runs.play("7 thirty-two pages", "make 32 = 0\nmake 32 = 1", Runs.lines(0, 32, p -> "write 0 " + p + " 1 " + p + " = 0"),
-        "lay 1 0 0 0 32 = 0\ncount 2 = 31\ncount 3 = 31\nread 1 31 1 = 31\nlay 1 1 1 0 31 = 0\nlay 0 1 0 0 31 = 1");
-    runs.play("7 with two hundred frames", TWO_HUNDRED_FRAMES, "lay 6 8 0 0 24 = 0\nlay 1 0 0 0 32 = 32\ncount 2 = 168");
+    runs.play("7 thirty-two pages", "make 32 = 0\nmake 32 = 1",
+        Runs.lines(0, 32, p -> "write 0 " + p + " 1 " + p + " = 0"), "lay 1 0 0 0 32 = 0\ncount 2 = 31\ncount 3 = 31",
+        "read 1 31 1 = 31\nlay 1 1 1 0 31 = 0\nlay 0 1 0 0 31 = 1");
+    runs.play("7 with two hundred frames", TWO_HUNDRED_FRAMES, "lay 6 8 0 0 24 = 0\nlay 1 0 0 0 32 = 32",
+        "count 2 = 168");
   }
 
   private static void promise7LayWrong() {
@@ -170,7 +161,8 @@ public final class PromisesTest {
   private static void promise8Size() {
     runs.play("8 less and more", "make 3 = 0\nwrite 0 2 0 5 = 0\nwrite 0 1 0 4 = 0\nshare 0 0 3 = 1\nblank 1 1 = true",
         "size 0 1 = 3\ncount 2 = 1\nholders 1 2 = 1\nread 0 1 0" + NONE, "size 0 3 = 1\nread 0 2 0 = 0\nabout 0 1 = 3",
-        "size 0 32 = 3\nabout 0 1 = 32\nread 0 31 7 = 0\nsize 0 0 = 32\nabout 0 0 = 0\nread 0 0 0" + NONE, "size 0 0 = 0");
+        "size 0 32 = 3\nabout 0 1 = 32\nread 0 31 7 = 0\nsize 0 0 = 32\nabout 0 0 = 0\nread 0 0 0" + NONE,
+        "size 0 0 = 0");
     runs.play("8 the pages before stay", "make 4 = 0\nwrite 0 0 0 1 = 0\nwrite 0 1 0 2 = 0\nsize 0 4 = 4\nsize 0 2 = 4",
         "read 0 0 0 = 1\nread 0 1 0 = 2\ncount 2 = 2\ncount 1 = 2");
     runs.play("8 wrong", "make 2 = 0\nwrite 0 1 0 1 = 0", "size 0 33" + ARGUMENT, "size 0 -1" + ARGUMENT,
@@ -180,16 +172,18 @@ public final class PromisesTest {
 
   private static void promise9Blank() {
     runs.play("9 blank", "make 2 = 0\nwrite 0 0 0 6 = 0\nshare 0 0 2 = 1\nblank 0 0 = true\nblank 0 0 = false",
-        "read 0 0 0 = 0\nread 1 0 0 = 6\nholders 1 0 = 1\ncount 2 = 1\nblank 1 0 = true\ncount 2 = 0\nblank 1 1 = false");
+        "read 0 0 0 = 0\nread 1 0 0 = 6\nholders 1 0 = 1\ncount 2 = 1\nblank 1 0 = true\ncount 2 = 0",
+        "blank 1 1 = false");
     runs.play("9 a frame of 0 was a frame", "make 1 = 0\nown 0 0 = true\nblank 0 0 = true\nblank 0 0 = false");
     runs.play("9 wrong", "make 1 = 0\nwrite 0 0 0 1 = 0", "blank 0 1" + NONE, "blank 0 -1" + NONE, "blank 1 0" + NONE,
         "blank -1 0" + NONE, "blank 40 0" + NONE, "holders 0 0 = 1");
   }
 
   private static void promise10Own() {
-    runs.play("10 own", "make 2 = 0\nwrite 0 0 2 6 = 0\nown 0 0 = false\nshare 0 0 2 = 1\nown 0 0 = true\nown 0 0 = false",
-        "own 1 0 = false\ncommon 0 0 1 0 = false\nread 0 0 2 = 6\nread 1 0 2 = 6\ncount 2 = 2\nown 1 1 = true",
-        "holders 1 1 = 1\nread 1 1 0 = 0\nholders 0 1 = 0\ncount 2 = 3\nwrite 0 0 2 7 = 6\nread 1 0 2 = 6");
+    runs.play("10 own", "make 2 = 0\nwrite 0 0 2 6 = 0\nown 0 0 = false\nshare 0 0 2 = 1\nown 0 0 = true",
+        "own 0 0 = false", "own 1 0 = false\ncommon 0 0 1 0 = false\nread 0 0 2 = 6\nread 1 0 2 = 6\ncount 2 = 2",
+        "own 1 1 = true", "holders 1 1 = 1\nread 1 1 0 = 0\nholders 0 1 = 0\ncount 2 = 3\nwrite 0 0 2 7 = 6",
+        "read 1 0 2 = 6");
     runs.play("10 in common within a row", "make 3 = 0\nwrite 0 0 0 6 = 0\nlay 0 1 0 0 1 = 0\nlay 0 2 0 0 1 = 0",
         "own 0 1 = true\nholders 0 0 = 2\nholders 0 1 = 1\ncommon 0 0 0 2 = true");
     runs.play("10 a blank page after a frame went", "make 1 = 0\nwrite 0 0 4 3 = 0\nblank 0 0 = true\nown 0 0 = true",
@@ -225,8 +219,8 @@ public final class PromisesTest {
         "write 0 1 0 2 = 0\nwrite 0 1 1 1 = 0\nmerge = 0\ncommon 0 0 0 1 = false");
     runs.play("12 frames that several pages have", "make 2 = 0\nwrite 0 0 0 1 = 0\nwrite 0 1 0 1 = 0\nshare 0 0 2 = 1",
         "share 0 1 1 = 2\nmerge = 1\nholders 2 0 = 5\ncount 2 = 1\ncount 3 = 1");
-    runs.play("12 frames that went are no partners", "make 2 = 0\nwrite 0 0 0 1 = 0\nwrite 0 1 0 1 = 0\nblank 0 0 = true",
-        "merge = 0\nholders 0 1 = 1\nholders 0 0 = 0");
+    runs.play("12 frames that went are no partners", "make 2 = 0\nwrite 0 0 0 1 = 0\nwrite 0 1 0 1 = 0",
+        "blank 0 0 = true", "merge = 0\nholders 0 1 = 1\nholders 0 0 = 0");
     runs.play("12 two hundred", Runs.lines(0, 7, i -> "make 32 = " + i),
         Runs.lines(0, 200, i -> "write " + i / 32 + " " + i % 32 + " 0 " + (i % 5 + 1) + " = 0"),
         "merge = 195\ncount 2 = 5\nholders 0 0 = 40\nread 6 7 0 = 5\nholders 6 8 = 0\ncount 3 = 5\nmerge = 0");
@@ -243,11 +237,12 @@ public final class PromisesTest {
 
   private static void promise14Holders() {
     runs.play("14 holders", "make 3 = 0\nholders 0 0 = 0\nwrite 0 0 0 1 = 0\nholders 0 0 = 1\nlay 0 1 0 0 1 = 0",
-        "holders 0 0 = 2\nshare 0 0 3 = 1\nholders 1 1 = 4\nholders 0 2 = 0\nholders 1 2 = 0\ndrop 0 = 0\nholders 1 0 = 2",
-        "size 1 1 = 3\nholders 1 0 = 1");
+        "holders 0 0 = 2\nshare 0 0 3 = 1\nholders 1 1 = 4\nholders 0 2 = 0\nholders 1 2 = 0\ndrop 0 = 0",
+        "holders 1 0 = 2", "size 1 1 = 3\nholders 1 0 = 1");
     runs.play("14 as many as can be", "make 32 = 0\nwrite 0 0 0 1 = 0\nlay 0 1 0 0 1 = 0\nlay 0 2 0 0 2 = 0",
         "lay 0 4 0 0 4 = 0\nlay 0 8 0 0 8 = 0\nlay 0 16 0 0 16 = 0\nholders 0 31 = 32",
-        Runs.lines(1, 40, r -> "share 0 0 32 = " + r), "holders 39 31 = 1280\ncount 2 = 1\ndrop 0 = 0\nholders 7 7 = 1248");
+        Runs.lines(1, 40, r -> "share 0 0 32 = " + r), "holders 39 31 = 1280\ncount 2 = 1\ndrop 0 = 0",
+        "holders 7 7 = 1248");
     runs.play("14 wrong", "make 1 = 0", "holders 0 1" + NONE, "holders 0 -1" + NONE, "holders 1 0" + NONE,
         "holders -1 0" + NONE, "holders 40 0" + NONE);
   }
@@ -258,13 +253,17 @@ public final class PromisesTest {
         "about 1 3 = 0\nabout 1 2 = 1\nabout 1 4 = 1\nown 1 0 = true\nabout 1 3 = 1\nabout 0 3 = 3");
     runs.play("15 three rows have it", "make 1 = 0\nwrite 0 0 0 1 = 0\nshare 0 0 1 = 1\nshare 0 0 1 = 2",
         "about 0 3 = 0\nabout 1 3 = 0\nabout 2 3 = 0\ndrop 1 = 0\nabout 2 3 = 0\ndrop 0 = 0\nabout 2 3 = 1");
-    runs.play("15 a frame of 0 is no blank page", "make 2 = 0\nown 0 0 = true\nabout 0 1 = 1\nabout 0 2 = 1\nabout 0 4 = 0");
+    runs.play("15 a frame of 0 is no blank page", "make 2 = 0\nown 0 0 = true\nabout 0 1 = 1\nabout 0 2 = 1",
+        "about 0 4 = 0");
     runs.play("15 a row of no pages", "make 0 = 0", Runs.lines(0, 5, i -> "about 0 " + i + " = 0"));
-    runs.play("15 the first page and the last frame", TWO_HUNDRED_FRAMES, "lay 0 1 0 0 1 = 1\nabout 0 0 = 32\nabout 0 1 = 0",
-        "about 0 2 = 31\nabout 0 3 = 31\nabout 0 4 = 527\nabout 6 2 = 8\nabout 6 3 = 8\nabout 6 4 = 1572");
-    runs.play("15 numbers wrap around", "make 1 = 0\nwrite 0 0 0 2147483647 = 0\nwrite 0 0 1 1 = 0\nabout 0 4 = -2147483648");
-    runs.play("15 wrong", "make 1 = 0", "about 0 5" + ARGUMENT, "about 0 -1" + ARGUMENT, "about 0 2147483647" + ARGUMENT,
-        "about 0 -2147483648" + ARGUMENT, "about 1 0" + NONE, "about 1 5" + NONE, "about -1 0" + NONE, "about 40 -1" + NONE);
+    runs.play("15 the first page and the last frame", TWO_HUNDRED_FRAMES, "lay 0 1 0 0 1 = 1\nabout 0 0 = 32",
+        "about 0 1 = 0", "about 0 2 = 31\nabout 0 3 = 31\nabout 0 4 = 527\nabout 6 2 = 8\nabout 6 3 = 8",
+        "about 6 4 = 1572");
+    runs.play("15 numbers wrap around", "make 1 = 0\nwrite 0 0 0 2147483647 = 0\nwrite 0 0 1 1 = 0",
+        "about 0 4 = -2147483648");
+    runs.play("15 wrong", "make 1 = 0", "about 0 5" + ARGUMENT, "about 0 -1" + ARGUMENT,
+        "about 0 2147483647" + ARGUMENT, "about 0 -2147483648" + ARGUMENT, "about 1 0" + NONE, "about 1 5" + NONE,
+        "about -1 0" + NONE, "about 40 -1" + NONE);
   }
 
   private static void promise16Count() {
@@ -274,6 +273,7 @@ public final class PromisesTest {
         "drop 2 = 0\ncount 3 = 1\ndrop 0 = 0\ncount 3 = 0\ncount 2 = 2\ncount 0 = 2\ncount 1 = 2");
     runs.play("16 else", "make 3 = 0\ncount 4 = -1\ncount -1 = -1\ncount 2147483647 = -1\ncount -2147483648 = -1");
     runs.play("16 forty rows", FORTY_ROWS, "count 0 = 40\ncount 1 = 40\nsize 39 32 = 1\ncount 1 = 71");
-    runs.play("16 two hundred frames", TWO_HUNDRED_FRAMES, "count 2 = 200\ncount 3 = 0\nshare 0 0 32 = 7\ncount 3 = 32");
+    runs.play("16 two hundred frames", TWO_HUNDRED_FRAMES, "count 2 = 200\ncount 3 = 0\nshare 0 0 32 = 7",
+        "count 3 = 32");
   }
 }

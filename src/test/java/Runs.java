@@ -50,12 +50,17 @@ final class Runs {
 
   private void playLine(CloneTree x, String run, String line) {
     String[] sides = line.split(" = ");
-    String[] words = sides[0].split(" ");
+    due(run + ": " + sides[0], answer(x, sides[0]), sides[1].trim());
+  }
+
+  /** As below, for a call that is written "name arguments". */
+  static String answer(Object x, String call) {
+    String[] words = call.split(" ");
     int[] arguments = new int[words.length - 1];
     for (int i = 0; i < arguments.length; i++) {
       arguments[i] = Integer.parseInt(words[i + 1]);
     }
-    due(run + ": " + sides[0], answer(x, words[0], arguments), sides[1]);
+    return answer(x, words[0], arguments);
   }
 
   /** What the call answers, as a text; throws.X if it throws an X. */
