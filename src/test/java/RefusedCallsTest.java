@@ -2,8 +2,8 @@ import java.util.ArrayList;
 import java.util.List;
 
 /**
- * "A call that throws changes nothing", for every refused call: an object that refused it answers all that can be asked
- * as one does that was never called so. Each refusal is tried alone, behind the calls that make its state.
+ * "A call that throws changes nothing", for refused calls of every kind: an object that refused one answers a long list
+ * of questions as one does that was never called so. Each refusal is tried alone, behind the calls that make its state.
  */
 public final class RefusedCallsTest implements Scripts {
   private static final int MOST_CALLS = 512;
