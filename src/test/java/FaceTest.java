@@ -5,8 +5,13 @@ import java.lang.reflect.Modifier;
 import java.util.ArrayList;
 import java.util.Collections;
 import java.util.List;
+import java.util.Set;
+import java.util.TreeSet;
 
-/** The public face of the document, with its exceptions in their order, and no other member that can be seen. */
+/**
+ * The public face of the document, with its exceptions in their order, and no other member that can be seen; also, from
+ * LANGUAGE.md, that no private method bears the name of a public one and that static fields are final.
+ */
 public final class FaceTest {
   private static final String FACE =
       """
@@ -34,6 +39,8 @@ public final class FaceTest {
     runs.due("class", Modifier.toString(CloneTree.class.getModifiers()), "public final");
     Constructor<?>[] constructors = CloneTree.class.getDeclaredConstructors();
     runs.due("constructors", constructors.length + " " + constructors[0], "1 public CloneTree()");
+    runs.due("private methods named like public ones", privateNamesakes(), "[]");
+    runs.due("static fields that are not final", staticFieldsNotFinal(), "[]");
     runs.end();
   }
 
@@ -59,6 +66,27 @@ public final class FaceTest {
       text.append(' ').append(type.getSimpleName());
     }
     return text.toString();
+  }
+
+  private static String privateNamesakes() {
+    Set<String> publicNames = new TreeSet<>();
+    Set<String> privateNames = new TreeSet<>();
+    for (Method method : CloneTree.class.getDeclaredMethods()) {
+      boolean isPrivate = Modifier.isPrivate(method.getModifiers());
+      (isPrivate ? privateNames : publicNames).add(method.getName());
+    }
+    privateNames.retainAll(publicNames);
+    return privateNames.toString();
+  }
+
+  private static String staticFieldsNotFinal() {
+    List<String> found = new ArrayList<>();
+    for (Field field : CloneTree.class.getDeclaredFields()) {
+      if (Modifier.isStatic(field.getModifiers()) && !Modifier.isFinal(field.getModifiers())) {
+        found.add(field.getName());
+      }
+    }
+    return found.toString();
   }
 
   private static String seenFields() {
